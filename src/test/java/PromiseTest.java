@@ -166,11 +166,13 @@ final class PromiseTest {
         finder.set(4, 5, 6);
         Checks.due("leastSide() with 5 alone again", finder.leastSide(), 31);
         Checks.due("full: leastSide()", full().leastSide(), 1);
-        CutFinder oneApart = full();
-        for (int b : new int[] {0, 2, 3, 4, 5}) {
-            oneApart.set(1, b, 1);
+        for (int apart = 1; apart < 6; apart++) {
+            CutFinder oneApart = full();
+            for (int b = 0; b < 6; b++) {
+                oneApart.set(apart, b, 1);
+            }
+            Checks.due("leastSide() with " + apart + " apart", oneApart.leastSide(), 63 - (1 << apart));
         }
-        Checks.due("leastSide() with 1 apart", oneApart.leastSide(), 61);
     }
 
     private static void between() {
