@@ -1,12 +1,13 @@
-import java.util.Arrays;
-
-/** What the tests share: counting wrong answers, and making networks. */
+/** What the tests share: counting wrong answers, and knowing a place and a pair. */
 final class Checks {
     static final int PLACES = 6;
+    static final int BAD = -1;
+    static final int MIN = Integer.MIN_VALUE;
+    static final int MAX = Integer.MAX_VALUE;
     /** The edges of every range in the document, and numbers that a shift or a mask would take for right ones. */
     static final int[] ODD_NUMBERS = {
-        Integer.MIN_VALUE, Integer.MIN_VALUE + 1, -64, -63, -32, -6, -2, -1, 0, 1, 2, 3, 4, 5, 6, 7, 29, 30, 31, 32,
-        33, 37, 61, 62, 63, 64, 65, 127, 256, 65536, 1 << 30, Integer.MAX_VALUE
+        MIN, MIN + 1, -64, -63, -32, -6, -2, -1, 0, 1, 2, 3, 4, 5, 6, 7, 29, 30, 31, 32,
+        33, 37, 61, 62, 63, 64, 65, 127, 256, 65536, 1 << 30, MAX
     };
 
     private static int wrong = 0;
@@ -19,7 +20,7 @@ final class Checks {
         seen++;
         if (got != want) {
             wrong++;
-            System.out.println(call + " answered " + got + ", due is " + want);
+            System.out.println("  " + call + " answered " + got + ", due is " + want);
         }
     }
 
@@ -27,31 +28,28 @@ final class Checks {
         due(call, got ? 1 : 0, want ? 1 : 0);
     }
 
+    /** One sentence of the document, or one case of it, as a test of its own: the others run whatever it does. */
+    static void sentence(String words, Runnable test) {
+        int wrongBefore = wrong;
+        int seenBefore = seen;
+        try {
+            test.run();
+        } catch (RuntimeException thrown) {
+            due("a call that threw " + thrown, 1, 0);
+        }
+        if (seen == seenBefore) {
+            due("looked at nothing", 1, 0);
+        }
+        if (wrong != wrongBefore) {
+            System.out.println("BROKEN: " + words);
+        }
+    }
+
     static void end() {
         System.out.println(seen + " answers looked at, " + wrong + " not as due");
         if (wrong != 0 || seen == 0) {
             System.exit(1);
         }
-    }
-
-    /** A new object with the capacities of rows {a, b, c}. */
-    static CutFinder network(int[]... rows) {
-        CutFinder finder = new CutFinder();
-        for (int[] row : rows) {
-            due("set" + Arrays.toString(row), finder.set(row[0], row[1], row[2]), true);
-        }
-        return finder;
-    }
-
-    /** A new object with the capacities of a table of places by places: 15 calls. */
-    static CutFinder fromTable(int[][] table) {
-        CutFinder finder = new CutFinder();
-        for (int a = 0; a < PLACES; a++) {
-            for (int b = a + 1; b < PLACES; b++) {
-                finder.set(a, b, table[a][b]);
-            }
-        }
-        return finder;
     }
 
     static boolean isPlace(int a) {

@@ -14,13 +14,7 @@ final class FlowModel {
 
     /** This network with the capacity between a and b changed. */
     FlowModel with(int a, int b, int c) {
-        int[][] copy = new int[PLACES][];
-        for (int i = 0; i < PLACES; i++) {
-            copy[i] = table[i].clone();
-        }
-        copy[a][b] = c;
-        copy[b][a] = c;
-        return new FlowModel(copy);
+        return new FlowModel(Networks.tableWith(table, a, b, c));
     }
 
     int cost(int side) {

@@ -45,7 +45,7 @@ final class FlowTest {
     }
 
     private static void sides(int[][] table) {
-        CutFinder finder = Checks.fromTable(table);
+        CutFinder finder = Networks.fromTable(table);
         FlowModel model = new FlowModel(table);
         for (int side = 1; side <= 62; side++) {
             Checks.due("cost(" + side + ")", finder.cost(side), model.cost(side));
@@ -55,7 +55,7 @@ final class FlowTest {
     }
 
     private static void pairs(int[][] table) {
-        CutFinder finder = Checks.fromTable(table);
+        CutFinder finder = Networks.fromTable(table);
         FlowModel model = new FlowModel(table);
         for (int a = 0; a < PLACES; a++) {
             for (int b = 0; b < PLACES; b++) {
@@ -72,7 +72,7 @@ final class FlowTest {
     }
 
     private static void counts(int[][] table) {
-        CutFinder finder = Checks.fromTable(table);
+        CutFinder finder = Networks.fromTable(table);
         FlowModel model = new FlowModel(table);
         for (int a = 0; a < PLACES; a++) {
             for (int b = 0; b < PLACES; b++) {
@@ -87,7 +87,7 @@ final class FlowTest {
     private static void tight(int[][] table) {
         FlowModel model = new FlowModel(table);
         for (int a = 0; a < PLACES; a++) {
-            CutFinder finder = Checks.fromTable(table);
+            CutFinder finder = Networks.fromTable(table);
             for (int b = 0; b < PLACES; b++) {
                 for (int pair = 0; pair < PLACES * PLACES; pair++) {
                     int x = pair / PLACES;
@@ -102,7 +102,7 @@ final class FlowTest {
     private static void forced(int[][] table) {
         FlowModel model = new FlowModel(table);
         for (int in = -2; in <= 66; in++) {
-            CutFinder finder = Checks.fromTable(table);
+            CutFinder finder = Networks.fromTable(table);
             for (int out = -2; out <= 66; out++) {
                 Checks.due("forced(" + in + ", " + out + ")", finder.forced(in, out), model.forced(in, out));
             }
