@@ -72,6 +72,19 @@ final class Networks {
         return new CutFinder[] {new CutFinder(), full(), parts(7, 30, 1), mixed()};
     }
 
+    /** Tables of capacities: all 0, all 30, a row of places joined by 30, so that each is a bridge, and MIXED. */
+    static int[][][] tables() {
+        int[][] all = new int[Checks.PLACES][Checks.PLACES];
+        int[][] row = new int[Checks.PLACES][Checks.PLACES];
+        for (int a = 0; a < Checks.PLACES; a++) {
+            for (int b = 0; b < Checks.PLACES; b++) {
+                all[a][b] = a == b ? 0 : 30;
+                row[a][b] = Math.abs(a - b) == 1 ? 30 : 0;
+            }
+        }
+        return new int[][][] {new int[Checks.PLACES][Checks.PLACES], all, row, MIXED};
+    }
+
     static void isPath(CutFinder finder) {
         int[][] table = new int[Checks.PLACES][Checks.PLACES];
         for (int a = 0; a < CHAIN.length; a++) {

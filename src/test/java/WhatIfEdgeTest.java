@@ -76,14 +76,16 @@ final class WhatIfEdgeTest {
     }
 
     private static void lossChangesNothing() {
-        CutFinder finder = Networks.mixed();
-        for (int a : PLACES) {
-            for (int b : PLACES) {
-                finder.loss(a, b);
+        for (int[][] table : Networks.tables()) {
+            CutFinder finder = Networks.fromTable(table);
+            for (int a : PLACES) {
+                for (int b : PLACES) {
+                    finder.loss(a, b);
+                }
             }
+            finder.loss(-1, 6);
+            Networks.isTable(finder, table);
         }
-        finder.loss(-1, 6);
-        Networks.isTable(finder, Networks.MIXED);
     }
 
     /** No side has a and has it not, so a program that looks at such sides alone would answer true. */
@@ -200,15 +202,17 @@ final class WhatIfEdgeTest {
     }
 
     private static void tightChangesNothing() {
-        for (int a : PLACES) {
-            CutFinder finder = Networks.mixed();
-            for (int b : PLACES) {
-                for (int pair = 0; pair < 36; pair++) {
-                    finder.tight(a, b, pair / 6, pair % 6);
+        for (int[][] table : Networks.tables()) {
+            for (int a : PLACES) {
+                CutFinder finder = Networks.fromTable(table);
+                for (int b : PLACES) {
+                    for (int pair = 0; pair < 36; pair++) {
+                        finder.tight(a, b, pair / 6, pair % 6);
+                    }
                 }
+                finder.tight(a, 6, -1, 0);
+                Networks.isTable(finder, table);
             }
-            finder.tight(a, 6, -1, 0);
-            Networks.isTable(finder, Networks.MIXED);
         }
     }
 }
